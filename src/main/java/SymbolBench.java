@@ -258,7 +258,7 @@ public final class SymbolBench {
     }
 
     private static boolean isBelowUnsigned(int x, int y) {
-        return x + Integer.MIN_VALUE < y + Integer.MIN_VALUE;
+        return (x & LOW_32_BITS) < (y & LOW_32_BITS);
     }
 
     /** The result of an instruction of two operands that is no division; Java's shifts go by five bits too. */

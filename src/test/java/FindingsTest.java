@@ -5,6 +5,8 @@ public final class FindingsTest {
     public static void main(String[] args) {
         failuresByPlace();
         failuresOnceEach();
+        failureOfTheOnlyPath();
+        oldFailuresAreGone();
         noFailures();
         coveredPlaces();
         countsOfFindings();
@@ -53,6 +55,39 @@ public final class FindingsTest {
                 CHECK.due("failure(" + k + ", " + what + ")", bench.failure(k, what), want[k][what]);
             }
         }
+    }
+
+    private static void failureOfTheOnlyPath() {
+        SymbolBench bench = Op.bench(2, Op.i(Op.FAIL, 9));
+        CHECK.due("explore()", bench.explore(), 1);
+        CHECK.due("its end", bench.failure(0, 0), 4);
+        CHECK.due("its place", bench.failure(0, 1), 0);
+        CHECK.due("its least word", bench.failure(0, 2), 0);
+        CHECK.due("no second", bench.failure(1, 0), -1);
+    }
+
+    /** Behind four paths that failed at place 4, two by words below 2, a program fails there for words 2 and 3 alone. */
+    private static void oldFailuresAreGone() {
+        SymbolBench bench = new SymbolBench();
+        bench.input(1, false);
+        bench.input(1, false);
+        Op.tell(bench, Op.i(Op.INPUT, 0, 0), Op.i(Op.INPUT, 1, 1), Op.i(Op.IF, 0, 3), Op.i(Op.IF, 1, 4),
+            Op.i(Op.FAIL, 1));
+        CHECK.due("explore()", bench.explore(), 4);
+        CHECK.due("least word of the old one", bench.failure(0, 2), 0);
+        bench.clear();
+        bench.input(2, false);
+        Op.tell(bench, Op.i(Op.INPUT, 0, 0), Op.i(Op.CONST, 1, 2), Op.i(Op.AND, 2, 0, 1), Op.i(Op.EQ, 2, 2, 3),
+            Op.i(Op.ASSERT, 2), Op.i(Op.HALT, 0));
+        CHECK.due("explore()", bench.explore(), 2);
+        CHECK.due("count(4)", bench.count(4), 1);
+        CHECK.due("its end", bench.failure(0, 0), 3);
+        CHECK.due("its place", bench.failure(0, 1), 4);
+        CHECK.due("its least word", bench.failure(0, 2), 2);
+        bench.clear();
+        CHECK.due("explore()", bench.explore(), 1);
+        CHECK.due("no failure now", bench.failure(0, 0), -1);
+        CHECK.due("count(4)", bench.count(4), 0);
     }
 
     private static void noFailures() {

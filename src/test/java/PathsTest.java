@@ -9,6 +9,8 @@ public final class PathsTest {
         decisionsWithOneOutcome();
         sixtyDecisions();
         fortyPathsAndOneMore();
+        tooManyInTheirOrder();
+        allWordsOfTwelveBits();
         inputWordsAreLaidOut();
         resultsThatVary();
         pathsThatAreNot();
@@ -120,6 +122,7 @@ public final class PathsTest {
             CHECK.due("path(" + i + ", 3)", forty.path(i, 3), least);
             CHECK.due("path(" + i + ", 2)", forty.path(i, 2), 20);
         }
+        CHECK.due("no failure of 40 paths", forty.failure(0, 0), -1);
         SymbolBench many = manyPaths(19, true);
         CHECK.due("41 paths", many.explore(), -1);
         noneKnown(many);
@@ -131,6 +134,37 @@ public final class PathsTest {
         Op.tell(grown, Op.i(Op.INPUT, 2, 2), Op.i(Op.IF, 2, 60));
         CHECK.due("80 paths, behind 40", grown.explore(), -1);
         noneKnown(grown);
+    }
+
+    /** Lesser words go the paths ahead: forty paths are met in their order, and the next stands behind all of them. */
+    private static void tooManyInTheirOrder() {
+        for (int values = 18; values <= 20; values++) {
+            SymbolBench bench = new SymbolBench();
+            bench.input(1, false);
+            bench.input(5, false);
+            Op.tell(bench, Op.i(Op.INPUT, 0, 0), Op.i(Op.INPUT, 1, 1), Op.i(Op.CONST, 2, 1), Op.i(Op.CONST, 3, 31),
+                Op.i(Op.XOR, 0, 0, 2), Op.i(Op.XOR, 1, 1, 3), Op.i(Op.IF, 0, 7));
+            for (int k = 0; k < values; k++) {
+                bench.tell(Op.IF, 1, bench.count(2) + 1, 0);
+                bench.tell(Op.SUB, 1, 1, 2);
+            }
+            CHECK.due("explore()", bench.explore(), values == 20 ? -1 : 2 * (values + 1));
+            CHECK.due("the last path", bench.path(2 * values + 1, 3), values == 20 ? -1 : 63);
+        }
+    }
+
+    /** Only the last word goes its own path, and it is the last to be looked for. */
+    private static void allWordsOfTwelveBits() {
+        SymbolBench bench = Op.bench(12, Op.i(Op.INPUT, 0, 0), Op.i(Op.CONST, 1, 4095), Op.i(Op.SUB, 2, 0, 1),
+            Op.i(Op.IF, 2, 5), Op.i(Op.HALT, 0), Op.i(Op.HALT, 0));
+        CHECK.due("explore()", bench.explore(), 2);
+        onePath(bench, 0, 0, 5, 1, 0, 0, 0, 7);
+        onePath(bench, 1, 0, 4, 1, 4095, 4095, 1, 6);
+        CHECK.due("holds(1, 4095)", bench.holds(1, 4095), 1);
+        CHECK.due("holds(1, 4096)", bench.holds(1, 4096), -1);
+        CHECK.due("find the last", bench.find(1, 0, 4095), 4095);
+        CHECK.due("find the last but one", bench.find(0, 0, 4094), 4094);
+        CHECK.due("find none", bench.find(0, 0, 4095), -1);
     }
 
     private static void noneKnown(SymbolBench bench) {
